@@ -307,10 +307,9 @@ public final class LetterDesk {
                 return start;
             }
             int wanted = weekdaysUpTo(start) + days;
-            for (int i = 0; i < freeCount; i++) {
-                int day = freeDays[i];
+            for (int i = 0; i < freeCount && weekdaysUpTo(freeDays[i]) <= wanted; i++) {
                 // Each free weekday on the way puts the due day off by one weekday.
-                if (day > start && isWeekday(day) && weekdaysUpTo(day) <= wanted) {
+                if (freeDays[i] > start && isWeekday(freeDays[i])) {
                     wanted++;
                 }
             }
