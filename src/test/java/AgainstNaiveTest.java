@@ -15,6 +15,8 @@ public final class AgainstNaiveTest {
     private NaiveDesk naive;
     private String head;
     private int nextDay;
+    /** How seldom an edition of the run has facts of its own. */
+    private int sharing;
 
     public static void main(String[] args) {
         AgainstNaiveTest test = new AgainstNaiveTest();
@@ -31,6 +33,7 @@ public final class AgainstNaiveTest {
         naive = new NaiveDesk();
         head = null;
         nextDay = chance.nextInt(3);
+        sharing = 1 + chance.nextInt(8);
         for (int n = 0; n < CALLS; n++) {
             call("run " + seed + " call " + n + " ");
         }
@@ -94,8 +97,8 @@ public final class AgainstNaiveTest {
 
     private void edition(String at) {
         RandomTexts texts = new RandomTexts(chance);
-        String text = texts.text(chance.nextBoolean() ? head : null);
-        if (chance.nextInt(3) == 0) {
+        String text = texts.text(chance.nextInt(sharing) != 0 ? head : null);
+        if (head == null || chance.nextInt(5) == 0) {
             head = texts.headOf(text);
         }
         for (int i = 0; i < text.length(); i += 24) {
@@ -128,8 +131,8 @@ public final class AgainstNaiveTest {
     }
 
     private void changed(String at) {
-        int a = chance.nextInt(7) - (chance.nextInt(5) == 0 ? 1 : 0);
-        int b = chance.nextInt(7) - (chance.nextInt(5) == 0 ? 1 : 0);
+        int a = chance.nextInt(1 + desk.count(0)) - (chance.nextInt(9) == 0 ? 1 : 0);
+        int b = chance.nextInt(1 + desk.count(0)) - (chance.nextInt(9) == 0 ? 1 : 0);
         int d = day();
         for (int what = -1; what <= 2; what++) {
             int got = desk.changed(a, b, d, what);

@@ -67,6 +67,9 @@ public final class CalendarTest {
         desk.free(7, false);
         CHECK.same("working(6, 7) again", desk.working(6, 7), 1);
         CHECK.same("working is asked without an edition", desk.count(0), 0);
+        LetterDesk first = new LetterDesk();
+        first.free(1, true);
+        CHECK.same("the only free day", first.working(0, 4), 3);
     }
 
     private static String day(LetterDesk desk, int e, int day) {

@@ -159,11 +159,14 @@ public final class EditionTest {
     }
 
     private static void limits() {
+        right("clause a at 1 when 1" + "+1".repeat(1186) + ";says;");
+        wrong(1, "clause ^clause " + "clause ".repeat(340));
         StringBuilder facts = new StringBuilder();
         for (char name = 'a'; name <= 'h'; name++) {
             facts.append("fact ").append(name).append(" 0 to 1 ; ");
         }
         right(facts.toString());
+        wrong(2, facts + "clause a at 1 when h + ^i ; says ;");
         wrong(5, facts + "^fact i 0 to 0 ;");
         wrong(5, facts + "^fact a");
         StringBuilder clauses = new StringBuilder();
@@ -222,6 +225,13 @@ public final class EditionTest {
         CHECK.same("the tape was taken", desk.count(1), 0);
         CHECK.same("no edition came", desk.count(0), 1);
         CHECK.same("the old one is in hand", desk.look(0), 0);
+        CHECK.same("a word at the end", Desks.edition(desk, 5, "facts"), 1);
+        CHECK.same("a shorter one behind it", Desks.edition(desk, 5, "fact"), 1 + 16 * 4);
+        CHECK.same("a number at the end", Desks.edition(desk, 5, "fact a 9 to 19"), 1 + 16 * 14);
+        CHECK.same("a shorter number behind it", Desks.edition(desk, 5, "fact a 9 to 1"), 4 + 16 * 12);
+        CHECK.same("a word at a full tape's end", Desks.edition(desk, 5, " ".repeat(2396) + "fact"), 1 + 16 * 2400);
+        CHECK.same("a number there", Desks.edition(desk, 5, "fact a" + " ".repeat(2390) + "9999"), 4 + 16 * 2396);
+        CHECK.same("a full tape of blanks", Desks.edition(desk, 5, " ".repeat(2399) + "?"), 1 + 16 * 2399);
         CHECK.same("with its case", desk.told(0, 2), 3);
         CHECK.same("the day is still to be had", Desks.edition(desk, 5, "fact b 1 to 9 ;"), 0);
         CHECK.same("the new one is in hand", desk.look(0), 1);

@@ -25,6 +25,10 @@ public final class HandTest {
             CHECK.same("0 is still in hand", desk.look(0), 0);
             CHECK.same("and its case", desk.look(5), 7);
         }
+        LetterDesk six = Desks.with("", "", "", "", "", "");
+        CHECK.same("take(5) of six", six.take(5), true);
+        CHECK.same("take(6) of six", six.take(6), false);
+        CHECK.same("inForce(9999) of six", six.inForce(9999), 5);
         CHECK.same("take(0) again", desk.take(0), true);
         CHECK.same("the case is at its least", desk.look(5), 0);
         CHECK.same("take(1)", desk.take(1), true);

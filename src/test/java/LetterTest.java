@@ -76,7 +76,10 @@ public final class LetterTest {
             {"2 = 2", "1"}, {"1 + 1 = 3 - 1", "1"}, {"1 + ( 2 = 3 - 1 ) + 5", "7"}, {"( 1 < 2 ) = ( 3 < 4 )", "1"},
             {"0 - 5 < 0 - 4", "1"}, {"0009 + 1", "10"}, {"k", "7"}, {"k - k", "0"}, {"k + k < k", "0"},
             {"( ( ( ( k ) ) ) )", "7"}, {"10 - ( k - ( 3 - ( 1 = ( 1 ) ) ) )", "5"}, {"0 - 1", "-1"}, {"0 - 10", "-10"},
-            {"1 - ( 1 < 3 - ( 4 = 4 ) ) - 1", "-1"}, {"9999 + 9999", "19998"}};
+            {"1 - ( 1 < 3 - ( 4 = 4 ) ) - 1", "-1"}, {"9999 + 9999", "19998"},
+            {"1 = 2 + ( 3 = 4 + ( 5 = 6 + ( 7 = 8 + ( 9 ) ) ) )", "0"},
+            {"3 = 2 + ( 5 = 4 + ( 7 = 6 + ( 9 = 8 + 1 ) ) )", "1"},
+            {"3 < 2 + ( 5 = 4 + ( 7 = 6 + ( 9 = 8 + 1 ) ) )", "0"}};
         for (String[] row : due) {
             LetterDesk desk = Desks.with("fact j 0 to 1 ; fact k 7 to 8 ; clause a at 1 when 1 ; says = " + row[0] + " ;");
             CHECK.same("= " + row[0], Desks.make(desk, 0), "1 " + row[1]);
@@ -115,6 +118,8 @@ public final class LetterTest {
         CHECK.same("the first that refers, its first", made("clause a at 9 when 0 ; says ref b ; "
                 + "clause b at 9 when 1 ; says ref c ref b ref d ref a ; clause c at 0 when 1 ; says ref a ; "
                 + "clause d at 0 when 0 ; says ;"), "3: 1 3");
+        CHECK.same("the first clause refers", made("clause a at 9 when 1 ; says ref b ; "
+                + "clause b at 9 when 0 ; says ;"), "3: 0 1");
         CHECK.same("to itself", made("clause a at 9 when 1 ; says ref a ;"), "1 1");
     }
 

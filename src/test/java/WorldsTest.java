@@ -79,6 +79,9 @@ public final class WorldsTest {
         changes(desk, 0, 2, 0, 3, 9);
         changes(desk, 0, 3, 0, 6, 6);
         changes(desk, 3, 3, 9999, 0, -1);
+        changes(desk, 3, 2, 0, 6, 6);
+        changes(desk, 0, 2, 0, 3, 9);
+        changes(desk, 1, 2, 0, 6, 1);
         changes(desk, 0, 1, 0, 4, 1);
         LetterDesk signs = Desks.with("clause a at 1 when 1 ; says ab ;", "clause a at 1 when 1 ; says ac ;",
                 "clause a at 1 when 1 ; says a b ;", "clause b at 1 when 1 ; says = 2 ;",
@@ -135,6 +138,10 @@ public final class WorldsTest {
             CHECK.same("changed(" + b + ", 0, 0, 1)", desk.changed(b, 0, 0, 1), -2);
         }
         changes(desk, 0, 5, 0, 0, -1);
+        LetterDesk first = Desks.with("fact a 0 to 1 ;", "fact b 0 to 1 ;", "fact a 0 to 2 ;", "fact a 1 to 1 ;");
+        for (int b = 1; b < 4; b++) {
+            CHECK.same("changed(0, " + b + ", 0, 0) by the first fact", first.changed(0, b, 0, 0), -2);
+        }
         CHECK.same("a wrong what goes ahead of other facts", desk.changed(0, 1, 0, 2), -1);
         CHECK.same("a wrong day, too", desk.changed(0, 1, 10000, 0), -1);
     }
