@@ -39,6 +39,11 @@ public final class CalendarTest {
         CHECK.same("one that is free", desk.free(37, true), false);
         CHECK.same("one that is not", desk.free(500, false), false);
         CHECK.same("count(2)", desk.count(2), 40);
+        int weekdays = 0;
+        for (int n = 0; n < 40; n++) {
+            weekdays += n * 37 % 101 > 0 && n * 37 % 101 % 7 < 5 ? 1 : 0;
+        }
+        CHECK.same("working with 40 free days", desk.working(0, 9999), 7143 - weekdays);
         CHECK.same("one less", desk.free(37, false), true);
         CHECK.same("then one more", desk.free(500, true), true);
         CHECK.same("and no more", desk.free(37, true), false);

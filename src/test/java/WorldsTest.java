@@ -142,6 +142,11 @@ public final class WorldsTest {
         for (int b = 1; b < 4; b++) {
             CHECK.same("changed(0, " + b + ", 0, 0) by the first fact", first.changed(0, b, 0, 0), -2);
         }
+        StringBuilder eight = new StringBuilder();
+        for (char name = 'a'; name <= 'h'; name++) {
+            eight.append("fact ").append(name).append(" 1 to 2 ; ");
+        }
+        changes(Desks.with(eight.toString(), eight + "clause x at 1 when h = 2 ; says ;"), 0, 1, 0, 128, 1);
         CHECK.same("a wrong what goes ahead of other facts", desk.changed(0, 1, 0, 2), -1);
         CHECK.same("a wrong day, too", desk.changed(0, 1, 10000, 0), -1);
     }
