@@ -147,8 +147,8 @@ final class WorldEdges {
         // Asked one behind the other, each pair has its own answer.
         LetterDesk four = Desks.with("clause a at 1 when 1 ; says x ;", "clause b at 1 when 1 ; says x ;",
                 "clause a at 1 when 1 ; says y ;", FEW);
-        int[][] due = {{0, 1, 0}, {2, 1, 1}, {0, 1, 0}, {0, 2, 1}, {0, 1, 0}, {3, 1, -2}, {0, 1, 0}, {0, 3, -2}, {1, 1,
-                0}, {2, 1, 1}, {2, 2, 0}};
+        int[][] due = {{0, 1, 0}, {2, 1, 1}, {0, 1, 0}, {0, 2, 1}, {0, 1, 0}, {3, 1, -2}, {0, 1, 0}, {0, 3, -2},
+            {1, 1, 0}, {2, 1, 1}, {2, 2, 0}};
         for (int[] row : due) {
             int got = four.changed(row[0], row[1], 0, 0);
             if (row[2] == -2) {
