@@ -43,7 +43,24 @@ public final class AgainstNaiveTest {
         check.same(what, got, due);
     }
 
+    /** Now and then a number from the far ends, where sums and products turn round. */
+    private int odd(int usual) {
+        if (chance.nextInt(25) != 0) {
+            return usual;
+        }
+        return switch (chance.nextInt(4)) {
+            case 0 -> Integer.MIN_VALUE + chance.nextInt(3);
+            case 1 -> Integer.MAX_VALUE - chance.nextInt(3);
+            case 2 -> (1 << chance.nextInt(32)) + chance.nextInt(3) - 1;
+            default -> chance.nextInt();
+        };
+    }
+
     private int day() {
+        return odd(usualDay());
+    }
+
+    private int usualDay() {
         return switch (chance.nextInt(8)) {
             case 0 -> -1;
             case 1 -> 9990 + chance.nextInt(12);
@@ -56,7 +73,7 @@ public final class AgainstNaiveTest {
         switch (chance.nextInt(14)) {
             case 0, 1, 2 -> edition(at);
             case 3 -> {
-                int e = chance.nextInt(8) - 1;
+                int e = odd(chance.nextInt(8) - 1);
                 same(at + "take", desk.take(e) ? 1 : 0, naive.take(e) ? 1 : 0);
             }
             case 4 -> {
@@ -64,12 +81,12 @@ public final class AgainstNaiveTest {
                 same(at + "inForce", desk.inForce(d), naive.inForce(d));
             }
             case 5 -> {
-                int k = chance.nextInt(5) - 1;
-                int v = chance.nextInt(8) - 1;
+                int k = odd(chance.nextInt(5) - 1);
+                int v = odd(chance.nextInt(8) - 1);
                 same(at + "fact", desk.fact(k, v) ? 1 : 0, naive.fact(k, v) ? 1 : 0);
             }
             case 6 -> {
-                int w = chance.nextInt(3) == 0 ? chance.nextInt(2100) - 5 : chance.nextInt(40);
+                int w = odd(chance.nextInt(3) == 0 ? chance.nextInt(2100) - 5 : chance.nextInt(40));
                 same(at + "world", desk.world(w) ? 1 : 0, naive.world(w) ? 1 : 0);
             }
             case 7 -> {
@@ -86,8 +103,8 @@ public final class AgainstNaiveTest {
                 same(at + "working", desk.working(from, to), naive.working(from, to));
             }
             case 12 -> {
-                int kind = chance.nextInt(6);
-                int what = chance.nextInt(4) - 1;
+                int kind = odd(chance.nextInt(6));
+                int what = odd(chance.nextInt(4) - 1);
                 same(at + "judge", desk.judge(kind, what), naive.judge(kind, what));
             }
             default -> changed(at);
@@ -98,6 +115,9 @@ public final class AgainstNaiveTest {
     private void edition(String at) {
         RandomTexts texts = new RandomTexts(chance);
         String text = texts.text(chance.nextInt(sharing) != 0 ? head : null);
+        if (chance.nextInt(20) == 0) {
+            feedAnything(at);
+        }
         if (head == null || chance.nextInt(5) == 0) {
             head = texts.headOf(text);
         }
@@ -118,6 +138,16 @@ public final class AgainstNaiveTest {
         }
     }
 
+    /** Bytes of all kinds, ahead of a text, which has a fault then but by chance. */
+    private void feedAnything(String at) {
+        for (int n = chance.nextInt(120); n > 0; n--) {
+            long a = chance.nextLong();
+            long b = chance.nextLong();
+            long c = chance.nextLong();
+            same(at + "feed", desk.feed(a, b, c), naive.feed(a, b, c));
+        }
+    }
+
     private void make(String at) {
         int d = day();
         int got = desk.make(d);
@@ -131,10 +161,10 @@ public final class AgainstNaiveTest {
     }
 
     private void changed(String at) {
-        int a = chance.nextInt(1 + desk.count(0)) - (chance.nextInt(9) == 0 ? 1 : 0);
-        int b = chance.nextInt(1 + desk.count(0)) - (chance.nextInt(9) == 0 ? 1 : 0);
+        int a = odd(chance.nextInt(1 + desk.count(0)) - (chance.nextInt(9) == 0 ? 1 : 0));
+        int b = odd(chance.nextInt(1 + desk.count(0)) - (chance.nextInt(9) == 0 ? 1 : 0));
         int d = day();
-        for (int what = -1; what <= 2; what++) {
+        for (int what : new int[] {-1, 0, 1, 2, odd(3)}) {
             int got = desk.changed(a, b, d, what);
             same(at + "changed " + what, got, naive.changed(a, b, d, what));
             if (what == 0 && got > 0) {
@@ -152,6 +182,14 @@ public final class AgainstNaiveTest {
         for (int i = -1; i <= 13; i++) {
             same(at + "part " + i, desk.part(i), naive.part(i));
         }
+        int far = odd(-1);
+        same(at + "look " + far, desk.look(far), naive.look(far));
+        same(at + "letter " + far, desk.letter(far), naive.letter(far));
+        same(at + "count " + far, desk.count(far), naive.count(far));
+        same(at + "out " + far, desk.out(far), naive.out(far));
+        same(at + "part " + far, desk.part(far), naive.part(far));
+        same(at + "told " + far, told(far, 0), naiveTold(far, 0));
+        same(at + "told 0 " + far, told(0, far), naiveTold(0, far));
         for (int k = -1; k <= 8; k++) {
             for (int what = -1; what <= 3; what++) {
                 same(at + "told " + k + " " + what, told(k, what), naiveTold(k, what));
